@@ -1173,7 +1173,7 @@ public final class TowThatJerks {
             return true;
         }
 
-        private boolean scanPart(Shelf text, char part) {
+        private boolean scanPart(Shelf text, int part) {
             int sign = text.byteAt(place);
             switch (part) {
                 case 'D': return isDigit(sign) && scanNumber(text, 1);

@@ -5,6 +5,7 @@ public final class ImageTest {
     public static void main(String[] args) {
         counts();
         restoresAll();
+        newPiecesAreNotHurt();
         restoresWhatParted();
         staysAndIsReplaced();
         leavesShelves();
@@ -40,6 +41,19 @@ public final class ImageTest {
         Checks.read(x, "p0012;");
         C.due("a new piece's hurt", x.piece(2, 7), 0);
         C.due("a new piece's kind", x.piece(2, 0), 0);
+    }
+
+    private static void newPiecesAreNotHurt() {
+        TowThatJerks x = Checks.towOf("p3010;s10 20;v0;");
+        x.image();
+        Checks.read(x, "p3015;");
+        x.tenth();
+        C.due("the second is hurt", x.piece(1, 7), 3);
+        C.due("and in mind, too", x.holds(9, 0), 1);
+        x.restore();
+        Checks.read(x, "p3015;");
+        C.due("one in its place is not", x.piece(1, 7), 0);
+        C.due("the first is not hurt either", x.piece(0, 7), 0);
     }
 
     private static void restoresWhatParted() {

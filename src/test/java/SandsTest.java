@@ -35,6 +35,8 @@ public final class SandsTest {
         dueTakeIn("p105;p2950;p2950;d71;", 106);
         dueTakeIn("p291;v0;d1;", 1);
         dueTakeIn("p293;v0;d1;", 3);
+        dueTakeIn("p2999;v0;d1;", 99);
+        dueTakeIn("p301;p301;p301;p301;p301;p2950;d36;", 502);
         dueTakeIn("p2910;p2910;v0;d1;", -4);
         dueTakeIn("p0099;p291;d6;", 37);
     }
@@ -42,6 +44,7 @@ public final class SandsTest {
     private static void shallowest() {
         C.due("heft 2970", Checks.towOf("p2999;p2999;").shallowest(), 742);
         C.due("its pace does not matter", Checks.towOf("p2999;p2999;v9;d1;").shallowest(), 742);
+        C.due("nor pace 0", Checks.towOf("p2999;p2999;v0;").shallowest(), 742);
         C.due("1 at least", Checks.towOf("p301;").shallowest(), 1);
         C.due("heft 3998", Checks.towOf("p2999;p2999;p2968;p102;").shallowest(), 999);
         C.due("heft 4000", Checks.towOf("p2999;p2999;p2968;p005;").shallowest(), -4);

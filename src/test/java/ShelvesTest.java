@@ -155,6 +155,9 @@ public final class ShelvesTest {
         C.due("from a piece", x.copy(3, 0, 1, 0, 1), -12);
         C.due("to a piece", x.copy(1, 0, 3, 0, 99), -12);
         C.due("a piece onto itself", x.copy(3, 0, 3, 0, 0), -12);
+        x.row(5, 0, 2);
+        C.due("bytes to a piece", x.copy(5, 0, 3, 0, 0), -12);
+        C.due("a piece to bytes", x.copy(3, 0, 5, 0, 0), -12);
         C.due("of another sort", x.copy(1, 0, 2, 0, -1), -12);
         int[][] wrong = {{0, 0, -1}, {-1, 0, 1}, {0, -1, 1}, {4, 0, 0}, {0, 3, 0}, {3, 0, 1}, {0, 2, 1},
             {2, 0, 2}, {0, 1, 2}, {0, 0, 3}, {BIG, 0, 1}, {1, 0, BIG}, {BIG, 0, BIG}, {0, BIG, BIG}, {SMALL, 0, 1}};

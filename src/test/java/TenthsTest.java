@@ -14,6 +14,7 @@ public final class TenthsTest {
         greatest();
         calmTenths();
         jerkThatAddsNothing();
+        sixAreHurt();
         firstOneParts();
         wearsAndParts();
         holdsInMind();
@@ -51,6 +52,7 @@ public final class TenthsTest {
         C.due("pull(10000)", x.pull(10000), -1);
         x.set(0, 0);
         C.due("pull in a calm sea", x.pull(0), 3);
+        C.due("over by 1", Checks.towOf("p308;s4 7;v0;").pull(0), 6);
         C.due("no tenth went by", x.count(2), 0);
     }
 
@@ -58,6 +60,9 @@ public final class TenthsTest {
         TowThatJerks x = Checks.towOf(SEVEN);
         C.due("greatest(0)", x.greatest(0), 20);
         C.due("greatest(1)", x.greatest(1), 1);
+        C.due("the least of several tenths", Checks.towOf(NYLON).greatest(1), 0);
+        C.due("the least of all tenths", Checks.towOf("p301;v0;").greatest(1), 0);
+        C.due("a line that pulls nothing", Checks.towOf("p301;v0;").greatest(0), 0);
         C.due("greatest(-1)", x.greatest(-1), -1);
         C.due("greatest(2)", x.greatest(2), -1);
         // Nothing parts in it, however great it is.
@@ -92,6 +97,17 @@ public final class TenthsTest {
         C.due("a jerk that adds nothing", x.tenth(), 170);
         C.due("is counted", x.count(3), 1);
         C.due("and hurts", x.piece(0, 7), 3);
+    }
+
+    private static void sixAreHurt() {
+        TowThatJerks x = Checks.towOf("p305;p205;p005;p455;p555;p655;s20 40;v0;");
+        x.tenth();
+        C.due("a jerk", x.count(3), 1);
+        int[] want = {3, 0, 1, 3, 1, 8};
+        for (int k = 0; k < 6; k++) {
+            C.due("hurt of piece " + k, x.piece(k, 7), want[k]);
+        }
+        C.due("all hurt", x.count(4), 16);
     }
 
     private static void firstOneParts() {
@@ -173,6 +189,7 @@ public final class TenthsTest {
         C.due("the pace stays", x.set(2, 4), 4);
         TowThatJerks heavy = Checks.towOf("p7010;p2999;");
         C.due("none", heavy.fastest(1), -4);
+        C.due("pace 0 alone", Checks.towOf("p7016;p2978;p4010;").fastest(1), 0);
         C.due("none of no tenths", heavy.fastest(0), 9);
         // By pace 0 the chafed one parts in tenth 80, and faster it is worse.
         TowThatJerks chafes = Checks.towOf(CHAFES);
@@ -226,6 +243,7 @@ public final class TenthsTest {
         C.due("not the parted one", parted.stock(999, 0), 2);
         C.due("its greatest", parted.stock(999, 1), 166);
         C.due("of no pieces", new TowThatJerks().stock(999, 0), -4);
+        C.due("stock(1, 0)", Checks.towOf("p301;").stock(1, 0), 1);
     }
 
     private static void bridge() {

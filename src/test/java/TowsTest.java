@@ -248,6 +248,7 @@ public final class TowsTest {
         // Give is 1 at least, and is cut of all pieces together.
         dueLine("p2099;v1;", 99, 594, 1, 118, 29, 61);
         dueLine("p0024;p0024;p002;", 50, 100, 2, 5, 1, 42);
+        dueLine("p2099;p2098;p101;v0;", 198, 1186, 1, 296, 74, 118);
         TowThatJerks none = new TowThatJerks();
         C.due("line(-1)", none.line(-1), -1);
         C.due("line(6)", none.line(6), -1);

@@ -11,6 +11,7 @@ public final class WhipsTest {
         legs();
         legsNotAsTold();
         why();
+        whyOfJustItsStrength();
         caravans();
         judged();
         refusalsOfJudge();
@@ -24,6 +25,9 @@ public final class WhipsTest {
         C.due("whip of chain", x.whip(2), 0);
         C.due("whip of 83", x.whip(3), 9);
         C.due("whip of 84", x.whip(4), 10);
+        TowThatJerks near = Checks.towOf("p0075;p6377;");
+        C.due("whip of 90000", near.whip(0), 9);
+        C.due("whip of 379995", near.whip(1), 37);
         C.due("whip(-1)", x.whip(-1), -1);
         C.due("whip(5)", x.whip(5), -1);
         // Hurt counts nothing, and no line is wanted.
@@ -51,6 +55,8 @@ public final class WhipsTest {
         TowThatJerks calm = Checks.towOf("p1010;s0 40;");
         C.due("a calm sea, winch(39)", calm.winch(39), 36);
         C.due("a calm sea, winch(40)", calm.winch(40), 0);
+        C.due("pulls of 1, winch(0)", Checks.towOf("p3010;v0;").winch(0), 1);
+        C.due("pulls of 0, winch(0)", Checks.towOf("p301;v0;").winch(0), 0);
         TowThatJerks none = new TowThatJerks();
         C.due("renders without", none.renders(5), -3);
         C.due("renders out of range", none.renders(-1), -1);
@@ -78,6 +84,9 @@ public final class WhipsTest {
         // Apart 60 at most, by 10 fathoms of 20 tenths; slack 2 at pace 0, none at pace 9.
         dueLegs(wire, new int[] {1, 60, 9, 1, 0, 0}, 166 + 1200, 2, 0);
         dueLegs(wire, new int[] {1, 0, 9, 1, 60, 9, 1, 0, 0}, 166 + 1200, 3, 1);
+        // Slowed to pace 0, not to 1: 1164 in place of 1166.
+        dueLegs(wire, new int[] {1, 0, 9, 1, 60, 1}, 1166, 2, 1);
+        dueLegs("p301;", new int[] {1, 0, 0}, 0, 1, 0);
         int[] eight = new int[24];
         for (int i = 0; i < 24; i += 3) {
             eight[i] = 99;
@@ -150,6 +159,17 @@ public final class WhipsTest {
         C.due("not hurt", x.why(0), 0);
         Checks.read(x, "p001;");
         C.due("a piece more", x.why(2), -4);
+    }
+
+    private static void whyOfJustItsStrength() {
+        TowThatJerks x = Checks.towOf("p0013;p2990;p101;s20 40;v5;");
+        C.due("a jerk below its strength", x.tenth(), 288);
+        C.due("hurts", x.piece(0, 7), 1);
+        x.set(0, 0);
+        x.set(2, 9);
+        C.due("a pull of just its strength", x.tenth(), 300);
+        C.due("parts it", x.piece(0, 8), 1);
+        C.due("by its hurt", x.why(0), 1);
     }
 
     private static void caravans() {

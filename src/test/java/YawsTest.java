@@ -90,10 +90,24 @@ public final class YawsTest {
         C.due("one that is still does not", new TowThatJerks().grows(), 0);
         TowThatJerks slow = Checks.towOf("a+30;v3;y400;");
         C.due("slowly it grows", slow.grows(), 1);
+        // These would not, if 101 tenths were held against 101, or 99 against 99.
+        C.due("a hundred tenths, no more", Checks.towOf("a+38;v2;y200;").grows(), 1);
+        C.due("a hundred tenths, no less", swung("a+301;v1;y000;").grows(), 0);
         C.due("nothing stays", slow.yaw(0), 30);
     }
 
+    /** Swing is -999 ahead of the text. */
+    private static TowThatJerks swung(String text) {
+        TowThatJerks x = Checks.towOf("a-999;v9;y000;");
+        x.yaws(5);
+        C.due("swing", x.yaw(1), -999);
+        Checks.read(x, text);
+        return x;
+    }
+
     private static void holding() {
+        C.due("a drogue of 2", swung("a+236;v3;y300;").held(), 2);
+        C.due("a drogue of 1", swung("a+106;v2;y300;").held(), 1);
         int above = 0;
         for (int angle = 20; angle <= 60; angle += 5) {
             for (int pace = 0; pace <= 9; pace++) {
