@@ -4,17 +4,12 @@ public final class RefusalsTest {
     private static final int[] ODD = {Integer.MIN_VALUE, -1000, -1, 10000, Integer.MAX_VALUE};
 
     public static void main(String[] args) {
-        TowThatJerks whole = rich();
-        dueUnchanged("whole", whole);
-        TowThatJerks parted = rich();
-        parted.set(0, 60);
-        parted.set(2, 9);
-        while (parted.tenth() >= 0) {
-            parted.count(0);
+        // One object for each number, so that none is used for more than 512 calls.
+        for (int odd : ODD) {
+            dueUnchanged("new", new TowThatJerks(), odd);
+            dueUnchanged("whole", rich(), odd);
+            dueUnchanged("parted", parted(), odd);
         }
-        C.due("it parted", parted.count(1), 1);
-        dueUnchanged("parted", parted);
-        dueUnchanged("new", new TowThatJerks());
         C.end();
     }
 
@@ -29,14 +24,23 @@ public final class RefusalsTest {
         return x;
     }
 
-    private static void dueUnchanged(String which, TowThatJerks x) {
+    private static TowThatJerks parted() {
+        TowThatJerks x = rich();
+        x.set(0, 60);
+        x.set(2, 9);
+        for (int i = 0; i < 40 && x.count(1) == 0; i++) {
+            x.tenth();
+        }
+        C.due("it parted", x.count(1), 1);
+        return x;
+    }
+
+    private static void dueUnchanged(String which, TowThatJerks x, int odd) {
         long[] seen = View.of(x);
         long[] shelves = View.ofShelves(x);
-        for (int odd : ODD) {
-            refuseEach(x, odd);
-            C.dueAll(which + ", all behind " + odd, View.of(x), seen);
-            C.dueAll(which + ", shelves behind " + odd, View.ofShelves(x), shelves);
-        }
+        refuseEach(x, odd);
+        C.dueAll(which + ", all behind " + odd, View.of(x), seen);
+        C.dueAll(which + ", shelves behind " + odd, View.ofShelves(x), shelves);
     }
 
     private static void below(String call, int got) {
