@@ -203,8 +203,9 @@ final class EdgesInMind {
         TowThatJerks six = Checks.towOf("p3010;p305;p305;p305;p305;p305;s40 20;v0;");
         s.due("bridge(3, 5) of six", six.bridge(3, 5), 28 - 4);
         s.due("count(0)", six.count(0), 6);
-        // A chain's heft is 6 by figure 0: slack 5, base 9.
+        // A chain's heft is 6 by figure 0: slack 5, base 9; heft 629 of 99 fathoms.
         s.due("bridge(2, 10)", Checks.towOf(NYLON).bridge(2, 10), 28 - 30);
+        s.due("bridge(2, 99)", Checks.towOf("p3035;v0;").bridge(2, 99), 3 - 62);
         s.says("BRIDGE. -1000000001; -1000000003.");
         TowThatJerks x = Checks.towOf("p3035;v0;");
         int[][] wrong = {{-1, 5}, {8, 5}, {0, 0}, {0, -1}, {0, 100}};

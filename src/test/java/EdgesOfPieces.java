@@ -72,6 +72,15 @@ final class EdgesOfPieces {
         s.due("piece(1, 7)", x.piece(1, 7), 3);
         Checks.read(x, "p4110;");
         s.due("piece(2, 7) of one that came later", x.piece(2, 7), 0);
+        // One in the place of another that was hurt, in mind too, is not.
+        x.image();
+        Checks.read(x, "p415;s60 40;");
+        s.due("holds(1, 0)", x.holds(1, 0), 1);
+        x.tenth();
+        s.due("piece(3, 7)", x.piece(3, 7), 3);
+        x.restore();
+        Checks.read(x, "p415;");
+        s.due("piece(3, 7)", x.piece(3, 7), 0);
     }
 
     private static void parted(Sentences s) {

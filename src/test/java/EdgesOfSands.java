@@ -11,6 +11,7 @@ final class EdgesOfSands {
         takeIn(s);
         shallowest(s);
         seeds(s);
+        hundredTenths(s);
         heights(s);
         draws(s);
     }
@@ -65,18 +66,25 @@ final class EdgesOfSands {
         s.due("shallowest()", new TowThatJerks().shallowest(), -3);
     }
 
-    /** Whether nothing parts by a seed, by the calls set and tenth, draws being reckoned without int's wrap. */
-    private static int holdsBy(String text, int seed) {
+    /** In how many of 101 tenths nothing parts, by the calls set and tenth, draws being reckoned without int's wrap. */
+    private static int tenthsBy(String text, int seed) {
         TowThatJerks x = Checks.towOf(text);
         int height = x.set(0, 0);
         long z = seed;
-        for (int i = 0; i < 100; i++) {
+        for (int i = 0; i <= 100; i++) {
             z = Math.floorMod(z * 1103515245L + 12345L, 1L << 32);
             long draw = z % (1L << 31) / 65536 % 21;
             x.set(0, (int) Math.max(0, Math.min(60, height + draw - 10)));
             x.tenth();
+            if (x.count(1) > 0) {
+                return i;
+            }
         }
-        return x.count(1) == 0 ? 1 : 0;
+        return 101;
+    }
+
+    private static int holdsBy(String text, int seed) {
+        return tenthsBy(text, seed) >= 100 ? 1 : 0;
     }
 
     private static void seeds(Sentences s) {
@@ -99,6 +107,15 @@ final class EdgesOfSands {
         s.says("ODDS. -1; -3.");
         s.due("odds(1, 1)", new TowThatJerks().odds(1, 1), -3);
         s.due("odds(-1, 1)", x.odds(-1, 1), -1);
+    }
+
+    private static void hundredTenths(Sentences s) {
+        s.says("in how many nothing parts in 100 TENTHS");
+        String text = "p6519;s0 14;v1;";
+        s.due("tenths by seed 20", tenthsBy(text, 20), 99);
+        s.due("odds(1, 20)", Checks.towOf(text).odds(1, 20), 0);
+        s.due("tenths by seed 4", tenthsBy(text, 4), 100);
+        s.due("odds(1, 4)", Checks.towOf(text).odds(1, 4), 1);
     }
 
     private static void heights(Sentences s) {

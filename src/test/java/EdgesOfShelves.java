@@ -199,6 +199,9 @@ final class EdgesOfShelves {
         dueCopy(s, x, -12, 3, 0, 0, 0, 1);
         dueCopy(s, x, -12, 0, 0, 3, 0, 1);
         dueCopy(s, x, -12, 3, 0, 3, 0, 0);
+        x.row(6, 0, 2);
+        dueCopy(s, x, -12, 3, 0, 6, 0, 1);
+        dueCopy(s, x, -12, 6, 0, 3, 0, 1);
         dueCopy(s, x, -12, 0, 0, 2, 0, 1);
         dueCopy(s, x, -12, 2, 0, 0, 0, 0);
         int[][] wrong = {{0, 0, -1}, {0, 0, LEAST}, {-1, 0, 1}, {0, -1, 1}, {3, 0, 1}, {0, 2, 1}, {0, 0, 3}, {2, 0, 2},

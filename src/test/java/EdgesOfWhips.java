@@ -26,6 +26,7 @@ final class EdgesOfWhips {
         s.due("whip(0) of 600", Checks.towOf("p201;").whip(0), 0);
         s.due("whip(0) of 28800", Checks.towOf("p0024;").whip(0), 2);
         s.due("whip(0) of 30000", Checks.towOf("p0025;").whip(0), 3);
+        s.due("whip(0) of 379995", Checks.towOf("p6377;").whip(0), 37);
         s.due("whip(0) of 1212750", Checks.towOf("p3999;").whip(0), 121);
         s.says("WHIP. -1.");
         TowThatJerks x = Checks.towOf("p0025;p3999;v9;");
@@ -131,6 +132,8 @@ final class EdgesOfWhips {
             last[3 * leg + 2] = 8;
         }
         s.due("legs(0, 2) of a faster eighth", legsOf(2, last), 7);
+        // By pace 1 both would be 1166, by pace 0 the second is 1164.
+        s.due("legs(0, 2) of a pace of 1", legsOf(2, 1, 0, 9, 1, 60, 1), 1);
         s.due("legs(0, 2) of no pace at all", legsOf(2, 5, 0, 0, 5, 0, 0), 0);
     }
 

@@ -144,7 +144,10 @@ final class EdgesOfYaws {
         dueGrows(s, "a+999;v0;y900;", 0);
         dueGrows(s, "a+30;v3;y400;", 1);
         dueGrows(s, "a-30;v3;y400;", 1);
+        // By one tenth less or more in each hundred these would be otherwise.
         dueGrows(s, "a+38;v2;y200;", 1);
+        s.due("grows()", swung("a+301;v1;y000;").grows(), 0);
+        s.due("by yaws", growsByYaws(swung("a+301;v1;y000;")), 0);
         s.says("GROWS: 1, 0.");
         s.due("grows()", new TowThatJerks().grows(), 0);
     }
