@@ -17,6 +17,10 @@ final class EdgesOfRefusals {
         }
         ofShelves(s);
         aheadOfNone(s);
+        s.says("-3 it can't be as things stand (there is no LINE)");
+        noLine(s, new TowThatJerks());
+        noLine(s, parted);
+        noLineIsWanted(s, parted);
         lower(s);
         changesNothing(s);
     }
@@ -88,6 +92,50 @@ final class EdgesOfRefusals {
         s.due("stock(5, 2)", x.stock(5, 2), -1);
         s.due("why(0)", x.why(0), -1);
         s.due("longer(0, 0)", x.longer(0, 0), -1);
+    }
+
+    private static void noLine(Sentences s, TowThatJerks x) {
+        s.due("line(0)", x.line(0), -3);
+        s.due("apart(0)", x.apart(0), -3);
+        s.due("pull(0)", x.pull(0), -3);
+        s.due("tenth()", x.tenth(), -3);
+        s.due("greatest(0)", x.greatest(0), -3);
+        s.due("greatest(1)", x.greatest(1), -3);
+        for (int what = 0; what < 3; what++) {
+            s.due("holds(0, " + what + ")", x.holds(0, what), -3);
+        }
+        s.due("fastest(0)", x.fastest(0), -3);
+        s.due("bridge(0, 1)", x.bridge(0, 1), -1000000003);
+        s.due("fouls()", x.fouls(), -3);
+        s.due("takeIn()", x.takeIn(), -3);
+        s.due("shallowest()", x.shallowest(), -3);
+        s.due("odds(1, 1)", x.odds(1, 1), -3);
+        s.due("renders(0)", x.renders(0), -3);
+        s.due("winch(40)", x.winch(40), -3);
+        Checks.row(x, 6, 0, 5, 0, 3);
+        for (int what = 0; what < 3; what++) {
+            s.due("legs(6, " + what + ")", x.legs(6, what), -3);
+        }
+        s.due("judge(6)", x.judge(6), -3);
+    }
+
+    /** The other calls go on where it has parted. */
+    private static void noLineIsWanted(Sentences s, TowThatJerks x) {
+        s.due("longer(0, 0)", x.longer(0, 0), -3);
+        s.due("piece(0, 8)", x.piece(0, 8), 1);
+        s.due("set(2, 9)", x.set(2, 9), 9);
+        s.due("stock(999, 0)", x.stock(999, 0), -4);
+        s.due("yaws(1)", x.yaws(1), 0);
+        s.due("grows()", x.grows(), 0);
+        s.due("held()", x.held(), 0);
+        s.due("caravan(9)", x.caravan(9), 0);
+        s.due("whip(0)", x.whip(0), 1);
+        s.due("why(0)", x.why(0), 0);
+        s.due("image()", x.image(), 1);
+        s.due("restore()", x.restore(), 1);
+        s.due("keep(0, 1, 0)", x.keep(0, 1, 0), 0);
+        s.due("tow('p1010;')", Checks.read(x, "p1010;"), 1);
+        s.due("stock(999, 0)", x.stock(999, 0), 2);
     }
 
     private static void lower(Sentences s) {

@@ -10,6 +10,7 @@ final class EdgesOfShelves {
     static void look(Sentences s) {
         numbersOfShelves(s);
         sizes(s);
+        theirRefusals(s);
         lowestBits(s);
         keep(s);
         row(s);
@@ -53,6 +54,34 @@ final class EdgesOfShelves {
         // A new row in an old one's place is 0, too.
         x.row(0, 2, 100);
         s.due("element(0, 99)", x.element(0, 99), 0);
+    }
+
+    private static void theirRefusals(Sentences s) {
+        TowThatJerks x = rows();
+        s.says("-11 nothing is held where something is wanted");
+        int[] onNothing = {x.tow(4), x.put(4, 0, 0), x.copy(4, 0, 0, 0, 0), x.copy(0, 0, 4, 0, 0), x.price(4),
+            x.toss(4), x.legs(4, 0), x.judge(4)};
+        dueEach(s, onNothing, -11);
+        s.says("-12 it is of another kind");
+        int[] onPiece = {x.tow(3), x.put(3, 0, 0), x.copy(3, 0, 0, 0, 0), x.copy(0, 0, 3, 0, 0), x.legs(3, 0), x.judge(3)};
+        dueEach(s, onPiece, -12);
+        int[] onShorts = {x.tow(0), x.price(0), x.toss(0), x.legs(0, 0), x.copy(0, 0, 2, 0, 0)};
+        dueEach(s, onShorts, -12);
+        s.says("-13 a place that isn't there (a number or a size that isn't as told, too)");
+        x.row(5, 0, 3);
+        int[] noPlace = {x.put(0, 3, 0), x.put(0, -1, 0), x.copy(0, 3, 1, 0, 1), x.copy(0, 0, 1, 2, 1),
+            x.copy(0, 0, 1, 0, -1), x.legs(5, 0)};
+        dueEach(s, noPlace, -13);
+        x.row(5, 0, 4);
+        s.due("legs(5, 0)", x.legs(5, 0), -13);
+        s.says("-15 a FAILURE that is none");
+        s.due("toss(3)", x.toss(3), -15);
+    }
+
+    private static void dueEach(Sentences s, int[] answers, int want) {
+        for (int k = 0; k < answers.length; k++) {
+            s.due("call " + k + " of these", answers[k], want);
+        }
     }
 
     private static void lowestBits(Sentences s) {
